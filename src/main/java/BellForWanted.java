@@ -12,6 +12,7 @@ public final class BellForWanted {
     private static final int LAW_FAULT = -10000;
     private static final int MOST_PEOPLE = 7;
     private static final int MOST_SETS = 1 << MOST_PEOPLE;
+    private static final int MOST_WANTS = MOST_PEOPLE * MOST_PEOPLE;
     private static final int TEXT_SIGNS = 80;
     private static final int PEOPLE_SIGNS = 20;
     private static final int WANTS_SIGNS = 60;
@@ -268,36 +269,26 @@ public final class BellForWanted {
     }
 
     public int when(int one) {
-        if (!folk.has(one)) {
-            return NONE;
-        }
-        trial.becomes(folk);
-        int first = NEVER;
-        int often = 0;
-        for (int i = 1; i <= AHEAD; i++) {
-            if (((goBy(trial, 1) >> one) & 1) != 0) {
-                first = often == 0 ? i : first;
-                often++;
-            }
-        }
-        return tellsFirst(first, often);
+        return folk.has(one) ? tellsMornings(1 << one) : NONE;
     }
 
     public int quiet() {
+        return tellsMornings(0);
+    }
+
+    /** The first MORNING on which some of this set WAKE, or of no set: on which nobody does. */
+    private int tellsMornings(int set) {
         trial.becomes(folk);
         int first = NEVER;
         int often = 0;
         for (int i = 1; i <= AHEAD; i++) {
-            if (goBy(trial, 1) == 0) {
+            int awake = goBy(trial, 1);
+            if (set == 0 ? awake == 0 : (awake & set) != 0) {
                 first = often == 0 ? i : first;
                 often++;
             }
         }
-        return tellsFirst(first, often);
-    }
-
-    private int tellsFirst(int first, int often) {
-        if (first > 0) {
+        if (often > 0) {
             told.tellsOne(often);
         }
         return first;
@@ -390,27 +381,22 @@ public final class BellForWanted {
             told.clears();
             return 0;
         }
-        for (int i = 0; i < MOST_PEOPLE * MOST_PEOPLE; i++) {
-            if (turnsTrial(i)) {
-                boolean awake = inForce.rouses(trial, one, trial.wanting(one));
-                turnsTrial(i);
-                if (awake) {
-                    told.tellsOne(i);
-                    return 1;
-                }
-            }
+        int want = stepFrom(one, 0);
+        if (want >= 0) {
+            told.tellsOne(want);
+            return 1;
         }
         return twoSteps(one);
     }
 
     /** Two WANTS that rouse one; none does by itself, as is known. */
     private int twoSteps(int one) {
-        for (int i = 0; i < MOST_PEOPLE * MOST_PEOPLE; i++) {
-            if (turnsTrial(i)) {
-                int second = secondStep(one, i + 1);
-                turnsTrial(i);
+        for (int want = 0; want < MOST_WANTS; want++) {
+            if (turnsTrial(want)) {
+                int second = stepFrom(one, want + 1);
+                turnsTrial(want);
                 if (second >= 0) {
-                    told.tellsBoth(i, second);
+                    told.tellsBoth(want, second);
                     return 2;
                 }
             }
@@ -418,19 +404,21 @@ public final class BellForWanted {
         return NEVER;
     }
 
-    private int secondStep(int one, int from) {
-        for (int i = from; i < MOST_PEOPLE * MOST_PEOPLE; i++) {
-            if (turnsTrial(i)) {
+    /** The least of the WANTS from this one on that rouses one in the trial, or NONE. */
+    private int stepFrom(int one, int from) {
+        for (int want = from; want < MOST_WANTS; want++) {
+            if (turnsTrial(want)) {
                 boolean awake = inForce.rouses(trial, one, trial.wanting(one));
-                turnsTrial(i);
+                turnsTrial(want);
                 if (awake) {
-                    return i;
+                    return want;
                 }
             }
         }
         return NONE;
     }
 
+    /** A want is told by 7 times who and whom; false: there is none such. */
     private boolean turnsTrial(int want) {
         return trial.turns(want / MOST_PEOPLE, want % MOST_PEOPLE) >= 0;
     }

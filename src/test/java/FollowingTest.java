@@ -23,6 +23,9 @@ public final class FollowingTest {
         BellForWanted alone = Check.bell("50;30", "1a");
         Check.due("30: alone", alone.follows(0), 1);
         Check.row("30: alone", alone, 0);
+        BellForWanted last = Check.bell("50;30", "0b");
+        Check.due("30: the last", last.follows(1), 1);
+        Check.row("30: the last", last, 1);
         // 0 to 1 to 3 and 0 to 2 to 3 are as long; 0 to 2 to 4 is, too.
         BellForWanted y = Check.bell("50;50;50;50;50", "0bc;1d;2de");
         Check.due("30: of as long ones the least", y.follows(0), 3);
@@ -45,6 +48,9 @@ public final class FollowingTest {
         none.wakes();
         Check.due("31: none", none.ring(), -2);
         Check.row("31: the ROW stays", none, 0, 2);
+        BellForWanted pairs = Check.bell(SEVEN, "0g;6a;1f;5b;2e;4c");
+        Check.due("31: of as few the least", pairs.ring(), 2);
+        Check.row("31: of as few the least", pairs, 0, 6);
         // 0, 1, 2 in a ring of three; 3, 5 in one of two.
         BellForWanted few = Check.bell(SEVEN, "0b;1c;2a;3f;5d");
         Check.due("31: the fewest", few.ring(), 2);

@@ -57,6 +57,9 @@ public final class ServingTest {
         BellForWanted alone = Check.bell("90;90;00", "1c");
         Check.due("24: one alone", alone.boot(), 1);
         Check.row("24: one alone", alone, 2, 0);
+        BellForWanted first = Check.bell("00;00;00", "0b;1c");
+        Check.due("24: the first alone", first.boot(), 1);
+        Check.row("24: the first alone", first, 1, 0);
         BellForWanted least = Check.bell("00;00;00", "2a;1c");
         Check.due("24: of as few the least", least.boot(), 1);
         Check.row("24: of as few the least", least, 2, 0);
@@ -124,6 +127,10 @@ public final class ServingTest {
         BellForWanted w = Check.bell("10;50;50;50", "1a;2a;3a", "2-w");
         Check.due("26: two are dropped", w.steps(0), 2);
         Check.row("26: two are dropped", w, 7, 14);
+        // 0 must want 1 and 2, too, that he wants three.
+        BellForWanted next = Check.bell("10;50;50;50", "0d", "v>2");
+        Check.due("26: two side by side", next.steps(3), 2);
+        Check.row("26: two side by side", next, 1, 2);
         Check.due("26: alone", Check.bell("90", "").steps(0), -2);
     }
 
