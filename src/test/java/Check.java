@@ -1,19 +1,52 @@
+import java.io.IOException;
+import java.nio.file.Files;
+import java.nio.file.Path;
 import java.util.Arrays;
 import java.util.NoSuchElementException;
 
 /** What the tests share: answers that are due, texts told sign by sign, the ROW as a whole. */
 final class Check {
+    private static final Path DOCUMENT = Path.of("../shared/DOC.md");
+    private static final String PROMISES_END = "## Not promised";
     private static int wrong = 0;
     private static int asked = 0;
+    private static String sentence = "";
+    private static String document;
 
     private Check() {
+    }
+
+    /** The words of a promise (of Terms: 0) to which the answers behind this call hold. */
+    static void says(int promise, String words) {
+        sentence = promise + ": \"" + words + "\": ";
+        String part = part(promise);
+        asked++;
+        if (!part.isEmpty() && !part.contains(words)) {
+            wrong++;
+            System.out.println(sentence + "the document has no such words there");
+        }
+    }
+
+    /** What the document says of a promise, with single spaces; nothing, if there is no document. */
+    private static String part(int promise) {
+        if (document == null) {
+            try {
+                document = Files.exists(DOCUMENT) ? Files.readString(DOCUMENT).replaceAll("\\s+", " ") : "";
+            } catch (IOException e) {
+                document = "";
+            }
+        }
+        int from = document.indexOf(promise == 0 ? "## Terms" : "## Promise " + promise + ":");
+        int to = document.indexOf("## Promise " + (promise + 1) + ":");
+        to = to < 0 ? document.indexOf(PROMISES_END) : to;
+        return from < 0 || to < from ? "" : document.substring(from, to);
     }
 
     static void due(String call, long got, long want) {
         asked++;
         if (got != want) {
             wrong++;
-            System.out.println(call + " answered " + got + ", due is " + want);
+            System.out.println(sentence + call + " answered " + got + ", due is " + want);
         }
     }
 
@@ -31,7 +64,7 @@ final class Check {
         long[] got = rowOf(x);
         if (!Arrays.equals(got, want)) {
             wrong++;
-            System.out.println("the ROW behind " + behind + " is " + Arrays.toString(got)
+            System.out.println(sentence + "the ROW behind " + behind + " is " + Arrays.toString(got)
                 + ", due is " + Arrays.toString(want));
         }
     }
@@ -125,11 +158,27 @@ final class Check {
         return all.toString();
     }
 
+    /** All that an object can tell, what it heard, saw, can undo and has kept as well: it is used up by that. */
+    static String all(BellForWanted x) {
+        StringBuilder all = new StringBuilder();
+        all.append(Arrays.toString(rowOf(x))).append(x.count(12));
+        all.append(" law ").append(x.law()).append(Arrays.toString(rowOf(x)));
+        all.append(" fits ").append(x.fits()).append(" laws ").append(x.laws()).append(Arrays.toString(rowOf(x)));
+        all.append(" now ").append(state(x));
+        for (int left = x.undo(); left >= 0; left = x.undo()) {
+            all.append(" undone ").append(state(x));
+        }
+        for (int i = 0; i <= 1; i++) {
+            all.append(" kept ").append(x.again(i)).append(' ').append(state(x));
+        }
+        return all.toString();
+    }
+
     static void same(String call, String got, String want) {
         asked++;
         if (!got.equals(want)) {
             wrong++;
-            System.out.println(call + ": the state is " + got + ", due is " + want);
+            System.out.println(sentence + call + ": the state is " + got + ", due is " + want);
         }
     }
 
