@@ -24,6 +24,7 @@ public final class EdgesActsTest {
         leavesRefused();
         weekEmpty();
         weekActs();
+        weekWithoutSigns();
         weekTillOne();
         weekUnmet();
         weekSign();
@@ -31,6 +32,8 @@ public final class EdgesActsTest {
         weekSixty();
         weekNothing();
         undoTwelve();
+        undoTwelveRefused();
+        undoEach();
         undoDone();
         undoMornings();
         undoWeek();
@@ -258,6 +261,18 @@ public final class EdgesActsTest {
         Check.due("no WANTS again", x.count(3), 0);
     }
 
+    private static void weekWithoutSigns() {
+        Check.says(14, "ACTS one behind another, without signs between");
+        BellForWanted x = Check.bell("50;50", "");
+        Check.due("five", Check.week(x, "n1t01p01s09l0"), 5);
+        Check.row("five", x, 0, 0);
+        weekFault("n1;t01", -3);
+        weekFault("n1,t01", -3);
+        weekFault("n1 t01", -3);
+        weekFault(" n1", -1);
+        weekFault("n1\0", -3);
+    }
+
     private static void weekTillOne() {
         Check.says(14, "they are done one by one, till one can't be (it answers below 0): how many were done");
         String[] cant = {"t00", "t02", "t20", "t99", "p09", "p21", "p91", "s05", "s20", "l0", "l2", "l9"};
@@ -380,6 +395,52 @@ public final class EdgesActsTest {
         x.mornings(1);
         Check.due("one more behind them", x.undo(), 0);
         Check.due("DAY 18 again", x.count(1), 18);
+    }
+
+    /** A refused call must not cost the oldest of twelve. */
+    private static void undoTwelveRefused() {
+        Check.says(15, "of 12 that are kept, the latest ones; such as were done");
+        BellForWanted x = Check.bell("50;50", "");
+        for (int i = 1; i <= 13; i++) {
+            x.mornings(1);
+        }
+        x.wishes(0, 0);
+        x.pills(0, 0);
+        x.learns(0, 5);
+        x.leaves(0);
+        x.mornings(0);
+        Check.week(x, "l0");
+        Check.due("still twelve", x.count(10), 12);
+        for (int left = 11; left >= 0; left--) {
+            Check.due("undo()", x.undo(), left);
+        }
+        Check.due("DAY 1", x.count(1), 1);
+        Check.due("SLEPT", x.one(0, 2), 1);
+    }
+
+    private static void undoEach() {
+        Check.says(15, "The latest mornings(), wishes(), pills(), learns(), leaves(), week()");
+        BellForWanted x = Check.bell("50;30;70", "0bc;1a");
+        int[][] before = new int[6][];
+        before[0] = numbers(x);
+        x.mornings(2);
+        before[1] = numbers(x);
+        x.wishes(2, 0);
+        before[2] = numbers(x);
+        x.pills(0, 3);
+        before[3] = numbers(x);
+        x.learns(0, 3);
+        before[4] = numbers(x);
+        x.leaves(0);
+        before[5] = numbers(x);
+        Check.week(x, "n2t12");
+        for (int left = 5; left >= 0; left--) {
+            Check.due("undo()", x.undo(), left);
+            int[] behind = numbers(x);
+            for (int i = 0; i < behind.length; i++) {
+                Check.due("number " + i + " behind undo() to " + left, behind[i], before[left][i]);
+            }
+        }
     }
 
     private static void undoDone() {

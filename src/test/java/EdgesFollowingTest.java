@@ -132,6 +132,9 @@ public final class EdgesFollowingTest {
         BellForWanted x = Check.bell("90", "");
         Check.due("alone", x.friends(), 1);
         Check.row("alone", x, 1, 1);
+        BellForWanted wanted = Check.bell("90;90;90", "1a;2a");
+        Check.due("who is wanted, but wants nobody", wanted.friends(), 1);
+        Check.row("who is wanted, but wants nobody", wanted, 1, 3);
         BellForWanted seven = Check.bell(SEVEN, "0b;1c;2d");
         Check.due("each of seven alone", seven.friends(), 1);
         Check.row("each of seven alone", seven, 1, 7);
@@ -168,6 +171,11 @@ public final class EdgesFollowingTest {
             Check.due("to himself", x.way(one, one), 0);
             Check.row("to himself", x, one);
         }
+        BellForWanted ring = Check.bell("90;90;90", "0b;1c;2a");
+        for (int one = 0; one < 3; one++) {
+            Check.due("to himself, not round the ring", ring.way(one, one), 0);
+            Check.row("to himself, not round the ring", ring, one);
+        }
     }
 
     private static void wayLong() {
@@ -177,6 +185,11 @@ public final class EdgesFollowingTest {
         Check.row("one", x, 5, 6);
         Check.due("six", x.way(0, 6), 6);
         Check.row("six", x, 0, 1, 2, 3, 4, 5, 6);
+        BellForWanted back = Check.bell(SEVEN, "6f;5e;4d;3c;2b;1a");
+        Check.due("one, to 0", back.way(1, 0), 1);
+        Check.row("one, to 0", back, 1, 0);
+        Check.due("six, to 0", back.way(6, 0), 6);
+        Check.row("six, to 0", back, 6, 5, 4, 3, 2, 1, 0);
     }
 
     private static void wayLeast() {

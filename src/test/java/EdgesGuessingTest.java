@@ -23,6 +23,7 @@ public final class EdgesGuessingTest {
         sawTen();
         denies();
         lawsAll();
+        lawsRange();
         lawsAbove();
         lawsLeast();
         lawsWithout();
@@ -223,6 +224,9 @@ public final class EdgesGuessingTest {
         BellForWanted x = Check.bell("20;50", "0b;1a");
         Check.due("3, 4, 5, 20, 30, ..", x.asks(), 3);
         Check.row("3, 4, 5, 20, 30, ..", x, 1);
+        BellForWanted alike = Check.bell(SEVEN, "");
+        Check.due("seven are left in any case", alike.asks(), 0);
+        Check.row("seven are left in any case", alike, 7);
         BellForWanted one = Check.bell("50", "");
         Check.due("one is left in any case", one.asks(), 0);
         Check.row("one is left in any case", one, 1);
@@ -305,6 +309,26 @@ public final class EdgesGuessingTest {
         Check.due("all still", x.laws(), 160);
     }
 
+    private static void lawsRange() {
+        Check.says(0, "one wakes, if a times SKILL and b times how many want him together are above c");
+        // 3 a is not above c, but 4 a is: a 1: c 3, a 2: 6, 7, a 3: 9 and no more of them; each b.
+        BellForWanted a = new BellForWanted();
+        a.saw(3, 0, 0);
+        a.saw(4, 0, 1);
+        Check.due("by a", a.laws(), 4 * (1 + 2 + 1));
+        Check.row("by a", a, 1, 0, 3);
+        BellForWanted b = new BellForWanted();
+        b.saw(0, 3, 0);
+        b.saw(0, 4, 1);
+        Check.due("by b", b.laws(), 4 * (1 + 2 + 1));
+        Check.row("by b", b, 0, 1, 3);
+        // 9 a and 6 b together are above each c, but for a 0, b 0 (none), a 0, b 1 (6) and a 1, b 0 (9).
+        BellForWanted most = new BellForWanted();
+        most.saw(9, 6, 1);
+        Check.due("of the most", most.laws(), 160 - 10 - 4 - 1);
+        Check.row("of the most", most, 0, 1, 0);
+    }
+
     private static void lawsAbove() {
         Check.says(40, "that fit all that was seen");
         // As much is not above: of SKILL 1 each c below a is fine, and of one who wants him each c below b.
@@ -339,6 +363,13 @@ public final class EdgesGuessingTest {
         // 5 b and 3 a + b above c, a + 3 b not: a 3, b 2, and c 9 alone.
         Check.due("one of the most a and c", one.laws(), 1);
         Check.row("one of the most a and c", one, 3, 2, 9);
+        BellForWanted most = new BellForWanted();
+        most.saw(2, 2, 1);
+        most.saw(0, 3, 0);
+        most.saw(3, 1, 0);
+        // 2 a and 2 b above c, but neither 3 b nor 3 a and b are: a 2, b 3 and c 9 alone.
+        Check.due("one of the most b and c", most.laws(), 1);
+        Check.row("one of the most b and c", most, 2, 3, 9);
         BellForWanted b = new BellForWanted();
         b.saw(0, 3, 1);
         b.saw(9, 2, 0);

@@ -14,9 +14,12 @@ public final class EdgesOddsTest {
         oddsAsNow();
         oddsNever();
         oddsRefused();
+        vigilHours();
         vigilEach();
         vigilWithout();
         vigilRefused();
+        restsHours();
+        restsTogether();
         restsEach();
         restsRefused();
         lawEmpty();
@@ -96,6 +99,17 @@ public final class EdgesOddsTest {
         Check.due("without PEOPLE", new BellForWanted().odds(0, 5), -1);
     }
 
+    private static void vigilHours() {
+        Check.says(43, "Of n (0 .. 60) hours that are left");
+        BellForWanted x = new BellForWanted();
+        Check.due("none", x.vigil(0), 0);
+        Check.due("one", x.vigil(1), 1);
+        Check.row("one", x, 1);
+        Check.due("59", x.vigil(59), 0);
+        Check.due("60", x.vigil(60), 1);
+        Check.row("60", x, 1);
+    }
+
     private static void vigilEach() {
         Check.says(43, "1 or the greatest of 1, 2, 4, 8, 16, 32 that is not more than are left");
         Check.due("61 numbers", TURNS.length, 61);
@@ -128,6 +142,28 @@ public final class EdgesOddsTest {
         for (int far : FAR) {
             Check.due("vigil(" + far + ")", x.vigil(far), -1);
         }
+    }
+
+    private static void restsHours() {
+        Check.says(44, "Two lie in x and y (0 .. 9) hours");
+        BellForWanted x = new BellForWanted();
+        Check.due("v 0", x.rests(0), 1);
+        Check.row("as long as can be", x, 9, 9);
+        Check.due("v 20", x.rests(20), 10);
+        Check.row("not at all", x, 0, 0);
+    }
+
+    private static void restsTogether() {
+        Check.says(44, "both pay 1 for each hour that both lie in together above 8");
+        // Of 4 and 4 one by 5 more has 10 less 5: v 5 holds him. Of 3 and 3 by 6 more he has 12 less 4: v 8 does.
+        BellForWanted x = new BellForWanted();
+        Check.due("v 4", x.rests(4), 5);
+        Check.row("v 4", x, 5, 5);
+        Check.due("v 5", x.rests(5), 6);
+        Check.row("v 5", x, 4, 4);
+        Check.due("v 7", x.rests(7), 6);
+        Check.due("v 8", x.rests(8), 7);
+        Check.row("v 8", x, 3, 3);
     }
 
     private static void restsEach() {

@@ -199,6 +199,10 @@ public final class EdgesServingTest {
         BellForWanted both = Check.bell("80;80;80;80;80;80;90", "", "b*(t-8)");
         Check.due("by 6, whom he wants", both.steps(5), 2);
         Check.row("by 6, whom he wants", both, 41, 47);
+        // 0 must want 1 and 2, too, that he wants three: two numbers side by side.
+        BellForWanted next = Check.bell("10;50;50;50", "0d", "v>2");
+        Check.due("side by side", next.steps(3), 2);
+        Check.row("side by side", next, 1, 2);
     }
 
     private static void stepsByNoTwo() {
@@ -312,6 +316,9 @@ public final class EdgesServingTest {
         BellForWanted last = Check.bell("90;90;90;90;90;90;91", "0g;1g;2g;3g;4g;5g");
         Check.due("the last, whom six want", last.spares(), 6);
         Check.row("the last, whom six want", last, 0, 6);
+        BellForWanted most = Check.bell(SEVEN, ALL, "0");
+        Check.due("six are left in any case", most.spares(), 0);
+        Check.row("six are left in any case", most, 6, 7);
         BellForWanted two = Check.bell("90;90;91", "0c;1c");
         two.wishes(1, 2);
         Check.due("0 or 2", two.spares(), 0);

@@ -38,6 +38,8 @@ public final class EdgesTermsTest {
         pillsAtLeast();
         unmetAtMost();
         dayGrows();
+        rowsCompared();
+        sets();
         Check.ends();
     }
 
@@ -254,6 +256,13 @@ public final class EdgesTermsTest {
         value("9-3-2", 4);
         value("9-3+2", 8);
         value("9/2*2", 8);
+        value("9-2*3", 3);
+        value("9-4/2", 7);
+        value("9+4/2", 11);
+        value("9*2-3", 15);
+        value("9/2-3", 1);
+        value("9/2+3", 7);
+        value("9-2-3*2+1", 2);
         value("9/2/2", 2);
         value("2+3*4", 14);
         value("2*3-4", 2);
@@ -302,7 +311,11 @@ public final class EdgesTermsTest {
         Check.due("a thing behind a digit", Check.rule(x, "1s"), -2);
         Check.due("a digit behind a thing", Check.rule(x, "s1"), -2);
         Check.due("a digit behind brackets", Check.rule(x, "(1)1"), -4);
-        Check.due("the sign ahead of 0", Check.rule(x, "1."), -2);
+        Check.due("the sign ahead of 0 at first", Check.rule(x, "/"), -1);
+        Check.due("the sign behind 9 at first", Check.rule(x, ":"), -1);
+        Check.due("the sign ahead of 0 behind +", Check.rule(x, "1+/"), -3);
+        Check.due("the sign behind 9 behind +", Check.rule(x, "1+:"), -3);
+        Check.due("the sign ahead of those", Check.rule(x, "1."), -2);
         Check.due("the sign behind 9", Check.rule(x, "1:"), -2);
     }
 
@@ -485,6 +498,28 @@ public final class EdgesTermsTest {
         BellForWanted few = Check.bell("90;90;00", "0bc;1c");
         few.mornings(1);
         Check.due("one of whom WAKES; who wants nobody", few.count(2), 1);
+    }
+
+    private static void rowsCompared() {
+        Check.says(0, "Rows of numbers are compared from the first on.");
+        BellForWanted way = Check.bell(SEVEN, "0bc;1g;2d;6f;3f");
+        Check.due("a way", way.way(0, 5), 3);
+        Check.row("1, 6 ahead of 2, 3", way, 0, 1, 6, 5);
+        BellForWanted served = Check.bell("90;90;90", "0bc;1c");
+        Check.due("served", served.serves(), 2);
+        Check.row("1, 2 alone serves both", served, 1, 2, -1);
+        served.wishes(1, 0);
+        Check.due("served by 0, too", served.serves(), 2);
+        Check.row("1, 0 ahead of 2, 0 and 1, 2", served, 1, 0, -1);
+    }
+
+    private static void sets() {
+        Check.says(0, "Sets (of PEOPLE) are bits.");
+        BellForWanted x = Check.bell(SEVEN, "6a;0g");
+        Check.due("0 and 6 WAKE", x.wakes(), 65);
+        Check.due("6 is wanted by 0", x.one(6, 5), 1);
+        Check.due("0 is wanted by 6", x.one(0, 5), 64);
+        Check.due("nobody", x.one(1, 5), 0);
     }
 
     private static void dayGrows() {

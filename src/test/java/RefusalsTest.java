@@ -12,6 +12,8 @@ public final class RefusalsTest {
     public static void main(String[] args) {
         ofSigns();
         ofTexts();
+        textsThatAreRead();
+        ofRules();
         ofActs();
         ofUndo();
         ofMorningsToCome();
@@ -120,6 +122,49 @@ public final class RefusalsTest {
         empties("law()", "1x", BellForWanted::law, -10001);
         empties("people()", "", BellForWanted::people, 0);
         empties("wants()", "", BellForWanted::wants, 0);
+    }
+
+    private static void textsThatAreRead() {
+        Check.says(0, "THE TEXT, which a call that reads it empties");
+        BellForWanted x = rich();
+        Check.due("people()", Check.people(x, "50"), 1);
+        Check.due("signs behind people()", x.count(12), 0);
+        Check.due("wants()", Check.wants(x, "0b;1a"), 2);
+        Check.due("signs behind wants()", x.count(12), 0);
+        Check.due("rule()", Check.rule(x, "s+1"), 0);
+        Check.due("signs behind rule()", x.count(12), 0);
+        Check.due("week()", Check.week(x, "n1"), 1);
+        Check.due("signs behind week()", x.count(12), 0);
+        Check.due("week() of which none is done", Check.week(x, "t00"), 0);
+        Check.due("signs behind it", x.count(12), 0);
+        Check.due("law()", Check.law(x, "s+1"), 0);
+        Check.due("signs behind law()", x.count(12), 0);
+        Check.text(x, "n1");
+        x.wakes();
+        x.mornings(1);
+        x.undo();
+        Check.due("a call that does not read it", x.count(12), 2);
+    }
+
+    /** What of a text was read ahead of its fault leaves no trace in the next one that is read. */
+    private static void ofRules() {
+        Check.says(0, "Refused calls answer NONE, or false, and change nothing");
+        String[] faults = {"-", "---", "(", "((((", "1+", "1<", "1*", "(1<2", "(((1-(2*-", "1000", "12x", "-(-", "2-x",
+            "0*"};
+        for (String fault : faults) {
+            for (int way = 0; way <= 1; way++) {
+                BellForWanted x = Check.bell("50;50", "0b", "0");
+                int answer = way == 0 ? Check.rule(x, fault) : Check.law(x, fault);
+                Check.due("a fault in " + fault, answer < 0, true);
+                Check.due("THE RULE stays behind " + fault, x.wakes(), 0);
+                Check.due("the next rule behind " + fault, Check.rule(x, "3-2<2"), 0);
+                Check.due("who WAKES by it behind " + fault, x.wakes(), 2);
+                Check.due("the next behind " + fault, Check.rule(x, "1)"), -2);
+                Check.due("one of four brackets behind " + fault, Check.rule(x, "((((1))))"), 0);
+                Check.due("none behind " + fault, Check.rule(x, ""), 0);
+                Check.due("who WAKES by none behind " + fault, x.wakes(), 2);
+            }
+        }
     }
 
     private static void ofActs() {
