@@ -171,7 +171,7 @@ public final class EdgesFollowingTest {
             Check.due("to himself", x.way(one, one), 0);
             Check.row("to himself", x, one);
         }
-        BellForWanted ring = Check.bell("90;90;90", "0b;1c;2a");
+        BellForWanted ring = Check.bell(SEVEN, "0b;1c;2a");
         for (int one = 0; one < 3; one++) {
             Check.due("to himself, not round the ring", ring.way(one, one), 0);
             Check.row("to himself, not round the ring", ring, one);

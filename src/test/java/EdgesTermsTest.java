@@ -330,7 +330,10 @@ public final class EdgesTermsTest {
         Check.due("five behind some closed", Check.rule(x, "(((s)+((t"), -10);
         Check.due("nothing in them", Check.rule(x, "()"), -2);
         Check.due("one closed that is not open", Check.rule(x, "s)"), -2);
+        Check.due("one closed that is not open, behind +", Check.rule(x, "1+s)"), -4);
+        Check.due("one closed that is not open, behind -", Check.rule(x, "-s)"), -3);
         Check.due("one closed twice", Check.rule(x, "(s))"), -4);
+        Check.due("one closed twice, behind *", Check.rule(x, "2*(s))"), -6);
         Check.due("one not closed", Check.rule(x, "((s)"), -5);
         Check.due("one closed at first", Check.rule(x, ")"), -1);
     }

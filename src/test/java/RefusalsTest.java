@@ -157,9 +157,9 @@ public final class RefusalsTest {
                 int answer = way == 0 ? Check.rule(x, fault) : Check.law(x, fault);
                 Check.due("a fault in " + fault, answer < 0, true);
                 Check.due("THE RULE stays behind " + fault, x.wakes(), 0);
-                Check.due("the next rule behind " + fault, Check.rule(x, "3-2<2"), 0);
+                Check.due("the next rule behind " + fault, Check.rule(x, "3-2"), 0);
                 Check.due("who WAKES by it behind " + fault, x.wakes(), 2);
-                Check.due("the next behind " + fault, Check.rule(x, "1)"), -2);
+                Check.due("the next fault behind " + fault, Check.rule(x, "1)"), -2);
                 Check.due("one of four brackets behind " + fault, Check.rule(x, "((((1))))"), 0);
                 Check.due("none behind " + fault, Check.rule(x, ""), 0);
                 Check.due("who WAKES by none behind " + fault, x.wakes(), 2);
