@@ -16,6 +16,7 @@ public final class EdgesWakingTest {
         whenNone();
         whenRefused();
         quietFirst();
+        quietLate();
         quietOften();
         quietNone();
         runsMany();
@@ -173,6 +174,42 @@ public final class EdgesWakingTest {
         Check.due("on the first", on("n>0").quiet(), 1);
         Check.due("on the second", on("1-(n=1)").quiet(), 2);
         Check.due("on the seventh", on("n<6").quiet(), 7);
+    }
+
+    private static void quietLate() {
+        Check.says(19, "On which of the next MORNINGS (1 .. 99) nobody WAKES first");
+        for (int morning = 98; morning <= 99; morning++) {
+            BellForWanted x = quietFirstOn(morning);
+            Check.due("on the " + morning + "th first", x.quiet(), morning);
+            Check.row("once", x, 1);
+        }
+        BellForWanted x = quietFirstOn(100);
+        Check.due("on the 100th first", x.quiet(), -2);
+        x.mornings(1);
+        Check.due("which is the 99th then", x.quiet(), 99);
+    }
+
+    /**
+     * Of SKILL 9 is one who WAKES if n is not 6; the others WAKE by turns of 2, 4, 8, 3 MORNINGS (1 more than their
+     * SKILL), so begun that together they leave one MORNING of n 6 out: this one, 0 weeks ahead of it. By 2 all odd
+     * numbers of weeks ahead are covered, by 4 those of rest 2, by 8 those of rest 4, by 3 the one that is left, 8.
+     */
+    private static BellForWanted quietFirstOn(int morning) {
+        int[] turn = {2, 4, 8, 3};
+        int[] weeks = {1, 2, 4, 8};
+        int day = 7 + Math.floorMod(7 - morning, 7);
+        StringBuilder people = new StringBuilder("90");
+        for (int i = 0; i < turn.length; i++) {
+            int slept = turn[i] - 1 - Math.floorMod(morning - 7 * weeks[i] - 1, turn[i]);
+            people.append(';').append((day - 1 - slept) % 7).append('0');
+        }
+        BellForWanted x = Check.bell(people.toString(), "0bcde;1a", "s=n");
+        x.mornings(day);
+        for (int i = 0; i < turn.length; i++) {
+            x.learns(i + 1, turn[i] - 1);
+        }
+        Check.due("rule()", Check.rule(x, "(u=s)+(s>8)*(n<6)"), 0);
+        return x;
     }
 
     private static void quietOften() {
